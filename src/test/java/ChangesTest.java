@@ -23,7 +23,7 @@ public final class ChangesTest {
         CHECKS.due(call, want, got);
     }
 
-    static RevisionTree full() {
+    private static RevisionTree fullByPut() {
         RevisionTree x = new RevisionTree();
         for (int i = 0; i < 400; i++) {
             due("P2 put " + i, 1, x.put(2 * i, i, i % 301));
@@ -89,7 +89,7 @@ public final class ChangesTest {
     }
 
     private static void putWhenFull() {
-        RevisionTree x = full();
+        RevisionTree x = fullByPut();
         int before = x.digest(-1);
         due("P2 the 401st", RevisionTree.FULL, x.put(1, 1, 1));
         due("P2 the 401st, least", RevisionTree.FULL, x.put(-1, 1, 1));
@@ -149,7 +149,7 @@ public final class ChangesTest {
     }
 
     private static void someWhenNearlyFull() {
-        RevisionTree x = full();
+        RevisionTree x = Checks.full();
         x.remove(798);
         due("P3 room for one", 1, x.some(795, 1, 4, 50));
         due("P3 the one", 50, x.get(-1, 795));
@@ -164,7 +164,7 @@ public final class ChangesTest {
     }
 
     private static void someRefused() {
-        RevisionTree x = full();
+        RevisionTree x = Checks.full();
         int before = x.digest(-1);
         int[] wrong = {0, -1, 61, Integer.MIN_VALUE, Integer.MAX_VALUE};
         for (int many : wrong) {
@@ -193,7 +193,7 @@ public final class ChangesTest {
     }
 
     private static void removeMakesRoom() {
-        RevisionTree x = full();
+        RevisionTree x = Checks.full();
         due("P4 of 400", 399, x.remove(400));
         due("P4 room again", 1, x.put(401, 1, 1));
         due("P4 full again", RevisionTree.FULL, x.put(400, 1, 1));

@@ -7,6 +7,16 @@ final class Checks {
     private int made = 0;
     private int wrong = 0;
 
+    /** The KEYS 0, 2, 4 to 798, in few calls: an object is good for 512 alone. */
+    static RevisionTree full() {
+        RevisionTree x = new RevisionTree();
+        for (int i = 0; i < 360; i += 60) {
+            x.some(2 * i, 2, 60, i);
+        }
+        x.some(720, 2, 40, 360);
+        return x;
+    }
+
     void due(String call, long want, long got) {
         made++;
         if (got != want) {

@@ -63,9 +63,9 @@ public final class ReadsTest {
     }
 
     private static void nextOverAll() {
-        RevisionTree x = ChangesTest.full();
-        for (int k = -1; k < 798; k++) {
-            due("P9 above " + k, k + 2 - Math.floorMod(k, 2), x.next(-1, k));
+        RevisionTree x = Checks.full();
+        for (int k = 0; k <= 798; k += 2) {
+            due("P9 up to " + k, k, x.next(-1, k % 4 == 0 ? k - 1 : k - 2));
         }
         due("P9 above all 400", Checks.NONE, x.next(-1, 798));
     }
@@ -86,7 +86,7 @@ public final class ReadsTest {
     }
 
     private static void counts() {
-        RevisionTree x = ChangesTest.full();
+        RevisionTree x = Checks.full();
         due("P11 all", 400, x.count(-1));
         due("P11 reader 2", 0, x.count(2));
         x.commit(-1);
