@@ -6,6 +6,7 @@ final class Checks {
 
     private int made = 0;
     private int wrong = 0;
+    private String sentence = "";
 
     /** The KEYS 0, 2, 4 to 798, in few calls: an object is good for 512 alone. */
     static RevisionTree full() {
@@ -17,11 +18,56 @@ final class Checks {
         return x;
     }
 
+    /**
+     * Revisions 0 to 3 with KEYS 1 to their number, reader r on revision r (so reader 0 is gone),
+     * and other KEYS worked on: what a call does by mistake to any of them can be seen.
+     */
+    static RevisionTree busy() {
+        RevisionTree x = new RevisionTree();
+        for (int r = 1; r <= 3; r++) {
+            x.put(r, 10 * r, 100 + r);
+            x.commit(-1);
+            x.open(r);
+        }
+        x.remove(1);
+        x.put(2, 21, 201);
+        x.put(4, 40, 104);
+        x.put(5, 50, 105);
+        return x;
+    }
+
+    /** What the reads show of an object; the same text before and after if nothing changed. */
+    static String shown(RevisionTree x, int... keys) {
+        StringBuilder text = new StringBuilder();
+        for (int r = -1; r <= 3; r++) {
+            text.append(" reader ").append(r).append(": ").append(x.count(r));
+            text.append(" keys, digest ").append(x.digest(r));
+            for (int k : keys) {
+                text.append(", ").append(k).append(" has ").append(x.get(r, k));
+                text.append('/').append(x.size(r, k)).append('/').append(x.next(r, k));
+            }
+        }
+        return text.toString();
+    }
+
+    /** The words of the document that the next answers are due to. */
+    void sentence(String words) {
+        sentence = words + " | ";
+    }
+
     void due(String call, long want, long got) {
         made++;
         if (got != want) {
             wrong++;
-            System.out.println(call + " answered " + got + ", due is " + want);
+            System.out.println(sentence + call + " answered " + got + ", due is " + want);
+        }
+    }
+
+    void same(String after, String want, String got) {
+        made++;
+        if (!got.equals(want)) {
+            wrong++;
+            System.out.println(sentence + after + " shows" + got + ", due is" + want);
         }
     }
 
