@@ -154,6 +154,10 @@ public final class WholeTest {
             x.remove(3);
             x.commit(-1);
             CHECKS.same("a second commit", opened, seen(x, r));
+            x.put(2, 1, 1);
+            x.commit(9);
+            x.forget();
+            CHECKS.same("a cut commit on the third latest", opened, seen(x, r));
             x.commit(-1);
             due("a third commit", RevisionTree.GONE, x.count(r));
         }
